@@ -23,6 +23,8 @@ public final class LinkTest {
         orderOfMethods();
         laterCodeMendsAFault();
         longestMethods();
+        fullMethods();
+        anew();
         Checks.finish();
     }
 
@@ -248,6 +250,8 @@ public final class LinkTest {
         // Different numbers of entries at byte 6, then the same at byte 10.
         flow(0, LOAD, 1, JZERO, 6, PUSH, 1, PUSH, 1, RETURN);
         fine(0, LOAD, 1, JZERO, 8, PUSH, 1, JUMP, 10, PUSH, 2, RETURN);
+        flow(0, PUSH, 1, LOAD, 1, JZERO, 0, RETURN);
+        flow(0, LOAD, 1, POP, PUSH, 1, JUMP, 0);
         // An INT on one way and a REF on the other, not used, then used as either.
         int[] mixed = {LOAD, 1, JZERO, 9, PUSH, 1, JUMP, 11, RETURN, GLOAD, 0};
         fine(0, with(mixed, POP, PUSH, 1, RETURN));
@@ -345,5 +349,62 @@ public final class LinkTest {
         Guest.method(x, 7, code);
         Checks.due("the very last byte: link", x.link(), FORM);
         Checks.due("the very last byte: place", x.place(), 255);
+    }
+
+    /** Whole methods side by side: no method's check may look at the next one's bytes. */
+    private static void fullMethods() {
+        int[] code = new int[32];
+        for (int i = 0; i < 30; i++) {
+            code[i] = i % 2 == 0 ? NULL : POP;
+        }
+        code[30] = JUMP;
+        code[31] = 0;
+        GuestClassMachine x = new GuestClassMachine();
+        x.type(-1);
+        for (int name = 0; name < 8; name++) {
+            Guest.method(x, name, code);
+        }
+        Guest.link(x);
+        Guest.run("the last of full methods", x, Guest.call(0, 7, 0), GuestClassMachine.STOPPED, 0);
+        x.reset();
+        x.type(-1);
+        code[31] = 32;
+        Guest.method(x, 0, code);
+        Checks.due("a jump into the next method: link", x.link(), FORM);
+        Checks.due("a jump into the next method: place", x.place(), 30);
+        x.reset();
+        x.type(-1);
+        code[31] = 0;
+        for (int name = 0; name < 7; name++) {
+            Guest.method(x, name, code);
+        }
+        code[31] = 32;
+        Guest.method(x, 7, code);
+        Checks.due("a jump behind all methods: link", x.link(), FORM);
+        Checks.due("a jump behind all methods: place", x.place(), 7 * 32 + 30);
+    }
+
+    /** What an earlier link found must not matter after a reset or more code. */
+    private static void anew() {
+        GuestClassMachine x = Guest.single(2, NULL, POP, NULL, POP, PUSH, 1, RETURN);
+        Guest.link(x);
+        x.reset();
+        x.type(-1);
+        Guest.method(x, 2, JUMP, 3, PUSH, 1, RETURN);
+        Checks.due("other starts: link", x.link(), FORM);
+        Checks.due("other starts: place", x.place(), 0);
+        x.reset();
+        x.type(-1);
+        Guest.method(x, 2, PUSH, 1, STORE, 3, PUSH, 1, STORE, 2, LOAD, 1, JZERO, 13, ADD, RETURN);
+        Checks.due("flow with waiting bytes: link", x.link(), FLOW);
+        x.reset();
+        x.type(-1);
+        Guest.method(x, 2, JUMP, 14, POP, POP, POP, POP, POP, POP, POP, POP, POP, POP, POP, POP,
+            LOAD, 1, RETURN);
+        Checks.due("only what ways reach: link", x.link(), OK);
+        x.reset();
+        x.type(-1);
+        Guest.method(x, 2, LOAD, 3, POP, PUSH, 1, RETURN);
+        Checks.due("local 3 unset again: link", x.link(), FLOW);
     }
 }

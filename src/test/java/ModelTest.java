@@ -189,7 +189,7 @@ public final class ModelTest {
         code.add(onZero ? 11 : 10);
         if (upTo(2) == 0) {
             int i = upTo(starts.size());
-            if (heights.get(i) == height) {
+            if (heights.get(i) == height || upTo(20) == 0) {
                 code.add(starts.get(i));
                 return;
             }
@@ -297,7 +297,7 @@ public final class ModelTest {
     private static int likelyTarget(List<Integer> starts, List<Integer> heights, int height) {
         for (int tries = 0; tries < 40; tries++) {
             int i = upTo(starts.size());
-            if (heights.get(i) == height) {
+            if (heights.get(i) == height || upTo(60) == 0) {
                 return starts.get(i);
             }
         }
