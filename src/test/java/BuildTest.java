@@ -1,5 +1,5 @@
 /** Promises 1 to 5 and 8: a new object, type, field, method, code, reset. */
-public final class BuildTest {
+public final class BuildTest implements Codes {
     private static final int[] FAR = {-2147483648, -1000, -2, 16, 17, 31, 32, 256, 1000, 2147483647};
 
     public static void main(String[] args) {
@@ -24,11 +24,11 @@ public final class BuildTest {
         Checks.due("new: held(1)", x.held(1), -1);
         Checks.due("new: alike", x.alike(), false);
         Checks.due("new: reachable", x.reachable(), 0);
-        Checks.due("new: invoke", x.invoke(0, 0, 0), GuestClassMachine.REFUSED);
+        Checks.due("new: invoke", x.invoke(0, 0, 0), REFUSED);
         Checks.due("new: field", x.field(0), false);
         Checks.due("new: method", x.method(0), false);
         Checks.due("new: code", x.code(0), false);
-        Checks.due("new: link", x.link(), GuestClassMachine.EMPTY);
+        Checks.due("new: link", x.link(), EMPTY);
         Checks.due("new: first type", x.type(-1), 0);
     }
 
@@ -36,7 +36,7 @@ public final class BuildTest {
         GuestClassMachine x = new GuestClassMachine();
         GuestClassMachine y = new GuestClassMachine();
         x.type(-1);
-        Checks.due("apart: link", y.link(), GuestClassMachine.EMPTY);
+        Checks.due("apart: link", y.link(), EMPTY);
     }
 
     private static void types() {
@@ -120,7 +120,7 @@ public final class BuildTest {
         Checks.due("code(-2147483648)", x.code(-2147483648), false);
         Checks.due("code(2147483647)", x.code(2147483647), false);
         Checks.due("code(255)", x.code(255), true);
-        Checks.due("link", x.link(), GuestClassMachine.FORM);
+        Checks.due("link", x.link(), FORM);
         for (int i = 1; i < 32; i++) {
             Checks.due("byte " + i, x.code(0), true);
         }
@@ -135,35 +135,35 @@ public final class BuildTest {
         x.type(-1);
         x.method(2);
         x.type(-1);
-        Checks.due("code of the older type's method", x.code(Guest.LOAD), true);
+        Checks.due("code of the older type's method", x.code(LOAD), true);
         x.code(1);
-        x.code(Guest.RETURN);
+        x.code(RETURN);
         Guest.link(x);
-        Guest.run("older", x, Guest.call(0, 2, 12), GuestClassMachine.DONE, 12);
-        Checks.due("newer has none", x.invoke(1, 2, 12), GuestClassMachine.REFUSED);
+        Guest.run("older", x, Guest.call(0, 2, 12), DONE, 12);
+        Checks.due("newer has none", x.invoke(1, 2, 12), REFUSED);
     }
 
     private static void nothingIsAddedOnceLinked() {
-        GuestClassMachine x = Guest.single(2, Guest.LOAD, 1, Guest.RETURN);
+        GuestClassMachine x = Guest.single(2, LOAD, 1, RETURN);
         Guest.link(x);
         Checks.due("linked: type(-1)", x.type(-1), -1);
         Checks.due("linked: type(0)", x.type(0), -1);
         Checks.due("linked: field", x.field(0), false);
         Checks.due("linked: method", x.method(0), false);
         Checks.due("linked: code", x.code(0), false);
-        Checks.due("linked: invoke(1, ..)", x.invoke(1, 2, 0), GuestClassMachine.REFUSED);
-        Checks.due("linked: link", x.link(), GuestClassMachine.OK);
-        Guest.run("linked", x, Guest.call(0, 2, -9), GuestClassMachine.DONE, -9);
+        Checks.due("linked: invoke(1, ..)", x.invoke(1, 2, 0), REFUSED);
+        Checks.due("linked: link", x.link(), OK);
+        Guest.run("linked", x, Guest.call(0, 2, -9), DONE, -9);
     }
 
     private static void resetGivesAllUp() {
         GuestClassMachine x = new GuestClassMachine();
         x.type(-1);
         x.field(1);
-        Guest.method(x, 2, Guest.LOAD, 0, Guest.GSTORE, 0, Guest.LOAD, 0, Guest.GSTORE, 1,
-            Guest.LOAD, 1, Guest.RETURN);
+        Guest.method(x, 2, LOAD, 0, GSTORE, 0, LOAD, 0, GSTORE, 1,
+            LOAD, 1, RETURN);
         Guest.link(x);
-        Guest.run("before reset", x, Guest.call(0, 2, 5), GuestClassMachine.DONE, 5);
+        Guest.run("before reset", x, Guest.call(0, 2, 5), DONE, 5);
         Checks.due("before reset: alike", x.alike(), true);
         x.reset();
         Checks.due("reset: result", x.result(), 0);
@@ -171,22 +171,22 @@ public final class BuildTest {
         Checks.due("reset: held(1)", x.held(1), -1);
         Checks.due("reset: alike", x.alike(), false);
         Checks.due("reset: reachable", x.reachable(), 0);
-        Checks.due("reset: invoke", x.invoke(0, 2, 5), GuestClassMachine.REFUSED);
+        Checks.due("reset: invoke", x.invoke(0, 2, 5), REFUSED);
         Checks.due("reset: field", x.field(0), false);
         Checks.due("reset: method", x.method(0), false);
         Checks.due("reset: code", x.code(0), false);
-        Checks.due("reset: link", x.link(), GuestClassMachine.EMPTY);
+        Checks.due("reset: link", x.link(), EMPTY);
         Checks.due("reset: type(0)", x.type(0), -1);
         Checks.due("reset: type(-1)", x.type(-1), 0);
         Checks.due("reset: code without a method", x.code(0), false);
         Checks.due("reset: field(1)", x.field(1), true);
         Checks.due("reset: method(2)", x.method(2), true);
-        Checks.due("reset: the method has no code", x.link(), GuestClassMachine.FORM);
+        Checks.due("reset: the method has no code", x.link(), FORM);
     }
 
     private static void resetKeepsThePlace() {
-        GuestClassMachine x = Guest.single(2, Guest.LOAD, 1, 99);
-        Checks.due("link", x.link(), GuestClassMachine.FORM);
+        GuestClassMachine x = Guest.single(2, LOAD, 1, 99);
+        Checks.due("link", x.link(), FORM);
         x.reset();
         Checks.due("reset: place", x.place(), 2);
         x.type(-1);

@@ -2,15 +2,22 @@
 final class Checks {
     private static int asked = 0;
     private static int wrong = 0;
+    private static String sentence = "";
 
     private Checks() {
+    }
+
+    /** The document's words that the next answers are due to. */
+    static void sentence(String words) {
+        sentence = words;
     }
 
     static void due(String what, long got, long want) {
         asked++;
         if (got != want) {
             wrong++;
-            System.out.println(what + " answered " + got + ", due is " + want);
+            String where = sentence.isEmpty() ? "" : "[" + sentence + "] ";
+            System.out.println(where + what + " answered " + got + ", due is " + want);
         }
     }
 

@@ -1,15 +1,5 @@
 /** What is reachable at a NEW, with sure refs; and promises 11 to 16: looking at the globals. */
-public final class HeapTest {
-    private static final int PUSH = 0, LOAD = 1, STORE = 2, POP = 3, SAME = 9, JUMP = 10, JZERO = 11;
-    private static final int NULL = 12, NEW = 13, GET = 14, PUT = 15, CALL = 16, RETURN = 18;
-    private static final int GLOAD = 19, GSTORE = 20;
-    private static final int DONE = GuestClassMachine.DONE;
-    private static final int THROWN = GuestClassMachine.THROWN;
-    private static final int NO_VALUE = Guest.NO_VALUE;
-
-    /** Makes an object and answers 0. */
-    private static final int[] MAKE = {NEW, 0, POP, PUSH, 0, RETURN};
-
+public final class HeapTest implements Codes {
     public static void main(String[] args) {
         invokeCountsTheGlobals();
         sureRefsOfTheMethodItself();
@@ -26,118 +16,85 @@ public final class HeapTest {
         Checks.finish();
     }
 
-    /** Method 2 puts its receiver in front of the chain in global 0; method 0 has the given code. */
-    private static GuestClassMachine chain(int length, int[] code, int[] calledWithInt, int[] calledWithRef) {
-        GuestClassMachine x = new GuestClassMachine();
-        x.type(-1);
-        x.field(0);
-        x.field(8);
-        x.field(9);
-        Guest.method(x, 2, LOAD, 0, GLOAD, 0, PUT, 8, LOAD, 0, GSTORE, 0, PUSH, 0, RETURN);
-        Guest.method(x, 0, code);
-        Guest.method(x, 1, calledWithInt);
-        Guest.method(x, 5, calledWithRef);
-        Guest.link(x);
-        for (int i = 0; i < length; i++) {
-            Checks.due("chain", x.invoke(0, 2, 0), DONE);
-        }
-        Checks.due("chain: reachable", x.reachable(), length);
-        return x;
-    }
-
-    /** The most objects beside those of the global that the code has reachable at a NEW. */
-    private static void most(String what, int due, int[] code, int[] calledWithInt, int[] calledWithRef) {
-        GuestClassMachine fits = chain(9 - due, code, calledWithInt, calledWithRef);
-        Guest.run(what + ", 9 reachable", fits, Guest.call(0, 0, 1), DONE, 0);
-        Checks.due(what + ": only the global holds then", fits.reachable(), 9 - due);
-        GuestClassMachine full = chain(10 - due, code, calledWithInt, calledWithRef);
-        Guest.run(what + ", 10 reachable", full, Guest.call(0, 0, 1), THROWN, 6);
-        Checks.due(what + ": only the global holds then", full.reachable(), 10 - due);
-    }
-
-    private static void most(String what, int due, int... code) {
-        most(what, due, code, MAKE, MAKE);
-    }
-
     private static void invokeCountsTheGlobals() {
-        most("the receiver itself", 0, PUSH, 0, RETURN);
-        GuestClassMachine x = chain(10, MAKE, MAKE, MAKE);
+        Chain.most("the receiver itself", 0, PUSH, 0, RETURN);
+        GuestClassMachine x = Chain.chain(10, Chain.MAKE, Chain.MAKE, Chain.MAKE);
         Guest.run("full", x, Guest.call(0, 2, 0), THROWN, 6);
         Checks.due("full: the method didn't run", x.reachable(), 10);
         Checks.due("full: follow", x.follow(0, 8), true);
         Guest.run("one less", x, Guest.call(0, 2, 0), DONE, 0);
         Checks.due("one less: reachable", x.reachable(), 10);
-        Checks.due("full: refused", x.invoke(0, 3, 0), GuestClassMachine.REFUSED);
+        Checks.due("full: refused", x.invoke(0, 3, 0), REFUSED);
         Checks.due("full: result", x.result(), 0);
     }
 
     private static void sureRefsOfTheMethodItself() {
-        most("local 0", 1, MAKE);
-        most("local 0 made null", 0, NULL, STORE, 0, NEW, 0, POP, PUSH, 0, RETURN);
-        most("local 0 made an INT", 0, PUSH, 1, STORE, 0, NEW, 0, POP, PUSH, 0, RETURN);
-        most("an entry", 2, NEW, 0, NEW, 0, POP, POP, PUSH, 0, RETURN);
-        most("four entries", 5, NEW, 0, NEW, 0, NEW, 0, NEW, 0, NEW, 0, POP, PUSH, 0, RETURN);
-        most("a popped entry", 1, NEW, 0, POP, NEW, 0, POP, PUSH, 0, RETURN);
-        most("the same twice", 1, LOAD, 0, LOAD, 0, NEW, 0, POP, PUSH, 0, RETURN);
-        most("local 1", 2, NEW, 0, STORE, 1, NEW, 0, POP, PUSH, 0, RETURN);
-        most("local 2", 2, NEW, 0, STORE, 2, NEW, 0, POP, PUSH, 0, RETURN);
-        most("locals 2 and 3", 3, NEW, 0, STORE, 2, NEW, 0, STORE, 3, NEW, 0, POP, PUSH, 0, RETURN);
-        most("a local made an INT", 1, NEW, 0, STORE, 2, PUSH, 1, STORE, 2, NEW, 0, POP, PUSH, 0, RETURN);
-        most("a small INT is no ref", 0, PUSH, 1, STORE, 0, PUSH, 2, STORE, 2, PUSH, 10, NEW, 0,
+        Chain.most("local 0", 1, Chain.MAKE);
+        Chain.most("local 0 made null", 0, NULL, STORE, 0, NEW, 0, POP, PUSH, 0, RETURN);
+        Chain.most("local 0 made an INT", 0, PUSH, 1, STORE, 0, NEW, 0, POP, PUSH, 0, RETURN);
+        Chain.most("an entry", 2, NEW, 0, NEW, 0, POP, POP, PUSH, 0, RETURN);
+        Chain.most("four entries", 5, NEW, 0, NEW, 0, NEW, 0, NEW, 0, NEW, 0, POP, PUSH, 0, RETURN);
+        Chain.most("a popped entry", 1, NEW, 0, POP, NEW, 0, POP, PUSH, 0, RETURN);
+        Chain.most("the same twice", 1, LOAD, 0, LOAD, 0, NEW, 0, POP, PUSH, 0, RETURN);
+        Chain.most("local 1", 2, NEW, 0, STORE, 1, NEW, 0, POP, PUSH, 0, RETURN);
+        Chain.most("local 2", 2, NEW, 0, STORE, 2, NEW, 0, POP, PUSH, 0, RETURN);
+        Chain.most("locals 2 and 3", 3, NEW, 0, STORE, 2, NEW, 0, STORE, 3, NEW, 0, POP, PUSH, 0, RETURN);
+        Chain.most("a local made an INT", 1, NEW, 0, STORE, 2, PUSH, 1, STORE, 2, NEW, 0, POP, PUSH, 0, RETURN);
+        Chain.most("a small INT is no ref", 0, PUSH, 1, STORE, 0, PUSH, 2, STORE, 2, PUSH, 10, NEW, 0,
             POP, POP, PUSH, 0, RETURN);
     }
 
     private static void bothGlobals() {
         int[] code = {NEW, 0, GSTORE, 1, NEW, 0, POP, PUSH, 0, RETURN};
-        GuestClassMachine fits = chain(7, code, MAKE, MAKE);
+        GuestClassMachine fits = Chain.chain(7, code, Chain.MAKE, Chain.MAKE);
         Guest.run("both globals, 9 reachable", fits, Guest.call(0, 0, 1), DONE, 0);
         Checks.due("both globals: reachable", fits.reachable(), 8);
-        GuestClassMachine full = chain(8, code, MAKE, MAKE);
+        GuestClassMachine full = Chain.chain(8, code, Chain.MAKE, Chain.MAKE);
         Guest.run("both globals, 10 reachable", full, Guest.call(0, 0, 1), THROWN, 6);
         Checks.due("both globals: reachable", full.reachable(), 9);
     }
 
     private static void waysWithDifferentKinds() {
         // The argument is 1, so the first branch is gone.
-        most("a local that is an INT on the other way", 1,
+        Chain.most("a local that is an INT on the other way", 1,
             LOAD, 1, JZERO, 10, NEW, 0, STORE, 2, JUMP, 14, PUSH, 1, STORE, 2, NEW, 0, POP, PUSH, 0, RETURN);
-        most("a local that is null on the other way", 2,
+        Chain.most("a local that is null on the other way", 2,
             LOAD, 1, JZERO, 10, NEW, 0, STORE, 2, JUMP, 13, NULL, STORE, 2, NEW, 0, POP, PUSH, 0, RETURN);
-        most("a local that is unset on the other way", 1,
+        Chain.most("a local that is unset on the other way", 1,
             LOAD, 1, JZERO, 8, NEW, 0, STORE, 2, NEW, 0, POP, PUSH, 0, RETURN);
-        most("an entry that is an INT on the other way", 1,
+        Chain.most("an entry that is an INT on the other way", 1,
             LOAD, 1, JZERO, 8, NEW, 0, JUMP, 10, PUSH, 1, NEW, 0, POP, POP, PUSH, 0, RETURN);
-        most("an entry that is a REF on both", 2,
+        Chain.most("an entry that is a REF on both", 2,
             LOAD, 1, JZERO, 8, NEW, 0, JUMP, 10, GLOAD, 0, NEW, 0, POP, POP, PUSH, 0, RETURN);
-        most("an entry loaded from a local that is not sure", 1,
+        Chain.most("an entry loaded from a local that is not sure", 1,
             LOAD, 1, JZERO, 10, NEW, 0, STORE, 2, JUMP, 14, PUSH, 1, STORE, 2,
             LOAD, 2, NEW, 0, POP, POP, PUSH, 0, RETURN);
-        most("not yet met", 2,
+        Chain.most("not yet met", 2,
             LOAD, 1, JZERO, 13, NEW, 0, STORE, 2, NEW, 0, POP, JUMP, 13, PUSH, 0, RETURN);
-        most("a way that no value takes", 1,
+        Chain.most("a way that no value takes", 1,
             NEW, 0, STORE, 2, PUSH, 0, JZERO, 12, PUSH, 1, STORE, 2, NEW, 0, POP, PUSH, 0, RETURN);
-        most("bytes that no way reaches", 2,
+        Chain.most("bytes that no way reaches", 2,
             NEW, 0, STORE, 2, JUMP, 10, PUSH, 1, STORE, 2, NEW, 0, POP, PUSH, 0, RETURN);
         // The loop comes back to byte 4 with an INT in local 2, so it is never sure there.
-        most("an INT from a later round", 1,
+        Chain.most("an INT from a later round", 1,
             NEW, 0, STORE, 2, NEW, 0, POP, LOAD, 1, JZERO, 21, PUSH, 0, STORE, 1, PUSH, 0, STORE, 2, JUMP, 4,
             PUSH, 0, RETURN);
     }
 
     private static void whatFieldsHold() {
-        most("a field's object", 2,
+        Chain.most("a field's object", 2,
             LOAD, 0, NEW, 0, PUT, 8, NEW, 0, POP, PUSH, 0, RETURN);
-        most("two fields' objects", 3,
+        Chain.most("two fields' objects", 3,
             LOAD, 0, NEW, 0, PUT, 8, LOAD, 0, NEW, 0, PUT, 9, NEW, 0, POP, PUSH, 0, RETURN);
-        most("a field written over", 2,
+        Chain.most("a field written over", 2,
             LOAD, 0, NEW, 0, PUT, 8, LOAD, 0, NEW, 0, PUT, 8, LOAD, 0, NULL, PUT, 8,
             NEW, 0, POP, PUSH, 0, RETURN);
-        most("an INT field", 1,
+        Chain.most("an INT field", 1,
             LOAD, 0, PUSH, 10, PUT, 0, NEW, 0, POP, PUSH, 0, RETURN);
-        most("a ring", 2,
+        Chain.most("a ring", 2,
             LOAD, 0, NEW, 0, PUT, 8, LOAD, 0, GET, 8, LOAD, 0, PUT, 8, NULL, STORE, 1, NEW, 0, POP,
             PUSH, 0, RETURN);
-        most("a ring that is let go", 2,
+        Chain.most("a ring that is let go", 2,
             LOAD, 0, NEW, 0, PUT, 8, LOAD, 0, GET, 8, LOAD, 0, PUT, 8, NEW, 0, STORE, 0, NEW, 0, POP,
             PUSH, 0, RETURN);
     }
@@ -146,31 +103,31 @@ public final class HeapTest {
         int[] dropReceiver = {NULL, STORE, 0, NEW, 0, POP, PUSH, 0, RETURN};
         int[] dropArgument = {NULL, STORE, 1, NEW, 0, POP, PUSH, 0, RETURN};
         int[] answerNothing = {PUSH, 0, RETURN};
-        most("the waiting method's receiver", 1,
-            new int[] {LOAD, 0, LOAD, 1, CALL, 1, RETURN}, MAKE, MAKE);
-        most("the waiting method's local", 2,
-            new int[] {NEW, 0, STORE, 2, LOAD, 0, LOAD, 1, CALL, 1, RETURN}, MAKE, MAKE);
-        most("the waiting method's entry", 2,
-            new int[] {NEW, 0, LOAD, 0, LOAD, 1, CALL, 1, RETURN}, MAKE, MAKE);
-        most("the called method's receiver", 2,
-            new int[] {NEW, 0, LOAD, 1, CALL, 1, RETURN}, MAKE, MAKE);
-        most("the called method's receiver, dropped", 1,
-            new int[] {NEW, 0, LOAD, 1, CALL, 1, RETURN}, dropReceiver, MAKE);
-        most("the called method's argument", 2,
-            new int[] {LOAD, 0, NEW, 0, CALL, 5, RETURN}, MAKE, MAKE);
-        most("the called method's argument, dropped", 1,
-            new int[] {LOAD, 0, NEW, 0, CALL, 5, RETURN}, MAKE, dropArgument);
-        most("the waiting method's local that is not sure", 1,
-            new int[] {LOAD, 1, JZERO, 8, NEW, 0, STORE, 2, LOAD, 0, LOAD, 1, CALL, 1, RETURN}, MAKE, MAKE);
-        most("a local that is an INT after the call", 2,
-            new int[] {NEW, 0, STORE, 2, LOAD, 0, LOAD, 1, CALL, 1, STORE, 2, LOAD, 2, RETURN}, MAKE, MAKE);
-        most("nothing of a method that has answered", 1,
+        Chain.most("the waiting method's receiver", 1,
+            new int[] {LOAD, 0, LOAD, 1, CALL, 1, RETURN}, Chain.MAKE, Chain.MAKE);
+        Chain.most("the waiting method's local", 2,
+            new int[] {NEW, 0, STORE, 2, LOAD, 0, LOAD, 1, CALL, 1, RETURN}, Chain.MAKE, Chain.MAKE);
+        Chain.most("the waiting method's entry", 2,
+            new int[] {NEW, 0, LOAD, 0, LOAD, 1, CALL, 1, RETURN}, Chain.MAKE, Chain.MAKE);
+        Chain.most("the called method's receiver", 2,
+            new int[] {NEW, 0, LOAD, 1, CALL, 1, RETURN}, Chain.MAKE, Chain.MAKE);
+        Chain.most("the called method's receiver, dropped", 1,
+            new int[] {NEW, 0, LOAD, 1, CALL, 1, RETURN}, dropReceiver, Chain.MAKE);
+        Chain.most("the called method's argument", 2,
+            new int[] {LOAD, 0, NEW, 0, CALL, 5, RETURN}, Chain.MAKE, Chain.MAKE);
+        Chain.most("the called method's argument, dropped", 1,
+            new int[] {LOAD, 0, NEW, 0, CALL, 5, RETURN}, Chain.MAKE, dropArgument);
+        Chain.most("the waiting method's local that is not sure", 1,
+            new int[] {LOAD, 1, JZERO, 8, NEW, 0, STORE, 2, LOAD, 0, LOAD, 1, CALL, 1, RETURN}, Chain.MAKE, Chain.MAKE);
+        Chain.most("a local that is an INT after the call", 2,
+            new int[] {NEW, 0, STORE, 2, LOAD, 0, LOAD, 1, CALL, 1, STORE, 2, LOAD, 2, RETURN}, Chain.MAKE, Chain.MAKE);
+        Chain.most("nothing of a method that has answered", 1,
             new int[] {LOAD, 0, LOAD, 1, CALL, 1, POP, NEW, 0, POP, LOAD, 0, LOAD, 1, CALL, 1, RETURN},
-            new int[] {NEW, 0, STORE, 2, PUSH, 0, RETURN}, MAKE);
-        most("over two waiting methods", 4,
+            new int[] {NEW, 0, STORE, 2, PUSH, 0, RETURN}, Chain.MAKE);
+        Chain.most("over two waiting methods", 4,
             new int[] {NEW, 0, LOAD, 0, LOAD, 1, CALL, 1, RETURN},
-            new int[] {NEW, 0, NEW, 0, STORE, 2, LOAD, 0, GLOAD, 1, CALL, 5, RETURN}, MAKE);
-        most("the receiver alone", 0,
+            new int[] {NEW, 0, NEW, 0, STORE, 2, LOAD, 0, GLOAD, 1, CALL, 5, RETURN}, Chain.MAKE);
+        Chain.most("the receiver alone", 0,
             new int[] {LOAD, 0, LOAD, 1, CALL, 1, RETURN}, answerNothing, answerNothing);
     }
 
@@ -178,10 +135,10 @@ public final class HeapTest {
         // 100 objects are made and let go, beside nine that are held.
         int[] loop = {NULL, STORE, 0, NEW, 0, STORE, 0, NULL, STORE, 0, LOAD, 1, PUSH, 1, 5, STORE, 1,
             LOAD, 1, JZERO, 23, JUMP, 3, PUSH, 0, RETURN};
-        GuestClassMachine x = chain(9, loop, MAKE, MAKE);
+        GuestClassMachine x = Chain.chain(9, loop, Chain.MAKE, Chain.MAKE);
         Guest.run("garbage", x, Guest.call(0, 0, 100), DONE, 0);
         Checks.due("garbage: reachable", x.reachable(), 9);
-        GuestClassMachine y = chain(10, loop, MAKE, MAKE);
+        GuestClassMachine y = Chain.chain(10, loop, Chain.MAKE, Chain.MAKE);
         y.clear(0);
         Guest.run("after clear", y, Guest.call(0, 2, 0), DONE, 0);
         Checks.due("after clear: reachable", y.reachable(), 1);
@@ -206,8 +163,6 @@ public final class HeapTest {
         Guest.link(x);
         return x;
     }
-
-    private static final int[] NO_GLOBALS = {-2147483648, -2, -1, 2, 3, 16, 2147483647};
 
     private static void held() {
         GuestClassMachine x = looked();

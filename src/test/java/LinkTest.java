@@ -1,14 +1,5 @@
 /** Promises 6 and 7, link and place, with the check of a method: its form, then its flow. */
-public final class LinkTest {
-    private static final int PUSH = 0, LOAD = 1, STORE = 2, POP = 3, ADD = 4, SUB = 5, MUL = 6;
-    private static final int DIV = 7, LESS = 8, SAME = 9, JUMP = 10, JZERO = 11, NULL = 12;
-    private static final int NEW = 13, GET = 14, PUT = 15, CALL = 16, IS = 17, RETURN = 18;
-    private static final int GLOAD = 19, GSTORE = 20;
-    private static final int OK = GuestClassMachine.OK;
-    private static final int FORM = GuestClassMachine.FORM;
-    private static final int FLOW = GuestClassMachine.FLOW;
-    private static final int EMPTY = GuestClassMachine.EMPTY;
-
+public final class LinkTest implements Codes {
     public static void main(String[] args) {
         emptyAndTypesAlone();
         formOfSingleBytes();
@@ -28,28 +19,6 @@ public final class LinkTest {
         Checks.finish();
     }
 
-    private static void form(int fault, int... code) {
-        GuestClassMachine x = Guest.single(2, code);
-        Checks.due("form: link", x.link(), FORM);
-        Checks.due("form: place", x.place(), fault);
-        Checks.due("form: invoke", x.invoke(0, 2, 0), GuestClassMachine.REFUSED);
-    }
-
-    private static void flow(int name, int... code) {
-        GuestClassMachine x = Guest.single(name, code);
-        Checks.due("flow: link of " + java.util.Arrays.toString(code), x.link(), FLOW);
-        Checks.due("flow: place", x.place(), 0);
-        Checks.due("flow: invoke", x.invoke(0, name, 0), GuestClassMachine.REFUSED);
-    }
-
-    private static void fine(int name, int... code) {
-        GuestClassMachine x = Guest.single(name, code);
-        Checks.due("fine: link of " + java.util.Arrays.toString(code), x.link(), OK);
-        Checks.due("fine: place", x.place(), -1);
-        Checks.due("fine: link again", x.link(), OK);
-        Checks.due("fine: place again", x.place(), -1);
-    }
-
     private static void emptyAndTypesAlone() {
         GuestClassMachine x = new GuestClassMachine();
         Checks.due("empty: link", x.link(), EMPTY);
@@ -67,18 +36,18 @@ public final class LinkTest {
     }
 
     private static void formOfSingleBytes() {
-        form(0, 21);
-        form(0, 255);
-        form(2, LOAD, 1, 21, RETURN);
-        form(3, LOAD, 1, RETURN, 200);
+        Guest.form(0, 21);
+        Guest.form(0, 255);
+        Guest.form(2, LOAD, 1, 21, RETURN);
+        Guest.form(3, LOAD, 1, RETURN, 200);
         int[] withOperand = {PUSH, LOAD, STORE, JUMP, JZERO, NEW, GET, PUT, CALL, IS, GLOAD, GSTORE};
         for (int op : withOperand) {
-            form(0, op);
-            form(3, LOAD, 1, RETURN, op);
+            Guest.form(0, op);
+            Guest.form(3, LOAD, 1, RETURN, op);
         }
         int[] alone = {POP, ADD, SUB, MUL, DIV, LESS, SAME, NULL, RETURN};
         for (int op : alone) {
-            fine(2, LOAD, 1, RETURN, op);
+            Guest.fine(2, LOAD, 1, RETURN, op);
         }
     }
 
@@ -92,7 +61,7 @@ public final class LinkTest {
         edge(GSTORE, 1);
         edge(NEW, 0);
         edge(IS, 0);
-        fine(2, LOAD, 1, RETURN, PUSH, 255);
+        Guest.fine(2, LOAD, 1, RETURN, PUSH, 255);
         // The types that come after the method count too.
         GuestClassMachine x = Guest.single(2, LOAD, 1, RETURN, NEW, 2, IS, 3);
         Checks.due("one type: link", x.link(), FORM);
@@ -106,63 +75,63 @@ public final class LinkTest {
     }
 
     private static void edge(int op, int greatest) {
-        fine(2, LOAD, 1, RETURN, op, 0);
-        fine(2, LOAD, 1, RETURN, op, greatest);
-        form(3, LOAD, 1, RETURN, op, greatest + 1);
-        form(3, LOAD, 1, RETURN, op, 255);
+        Guest.fine(2, LOAD, 1, RETURN, op, 0);
+        Guest.fine(2, LOAD, 1, RETURN, op, greatest);
+        Guest.form(3, LOAD, 1, RETURN, op, greatest + 1);
+        Guest.form(3, LOAD, 1, RETURN, op, 255);
     }
 
     private static void formOfJumps() {
-        form(0, JUMP, 1, LOAD, 1, RETURN);
-        form(0, JUMP, 3, LOAD, 1, RETURN);
-        form(0, JUMP, 5, LOAD, 1, RETURN);
-        form(0, JUMP, 255, LOAD, 1, RETURN);
-        form(2, LOAD, 1, JZERO, 1, LOAD, 1, RETURN);
-        form(2, LOAD, 1, JZERO, 7, LOAD, 1, RETURN);
-        form(3, LOAD, 1, RETURN, JUMP, 32);
-        fine(2, JUMP, 2, LOAD, 1, RETURN);
-        fine(2, LOAD, 1, JZERO, 4, LOAD, 1, RETURN);
-        fine(2, JUMP, 0);
+        Guest.form(0, JUMP, 1, LOAD, 1, RETURN);
+        Guest.form(0, JUMP, 3, LOAD, 1, RETURN);
+        Guest.form(0, JUMP, 5, LOAD, 1, RETURN);
+        Guest.form(0, JUMP, 255, LOAD, 1, RETURN);
+        Guest.form(2, LOAD, 1, JZERO, 1, LOAD, 1, RETURN);
+        Guest.form(2, LOAD, 1, JZERO, 7, LOAD, 1, RETURN);
+        Guest.form(3, LOAD, 1, RETURN, JUMP, 32);
+        Guest.fine(2, JUMP, 2, LOAD, 1, RETURN);
+        Guest.fine(2, LOAD, 1, JZERO, 4, LOAD, 1, RETURN);
+        Guest.fine(2, JUMP, 0);
         // The first of two jumps; a byte's fault anywhere comes before all jumps.
-        form(2, JUMP, 2, JUMP, 1, JUMP, 3);
-        form(5, JUMP, 1, LOAD, 1, RETURN, 21);
-        form(3, JZERO, 1, RETURN, LOAD, 4);
+        Guest.form(2, JUMP, 2, JUMP, 1, JUMP, 3);
+        Guest.form(5, JUMP, 1, LOAD, 1, RETURN, 21);
+        Guest.form(3, JZERO, 1, RETURN, LOAD, 4);
     }
 
     private static void needsOfEachInstruction() {
         int[] intsFromInts = {ADD, SUB, MUL, DIV, LESS};
         for (int op : intsFromInts) {
-            fine(0, PUSH, 1, PUSH, 2, op, RETURN);
-            flow(0, op, RETURN);
-            flow(0, PUSH, 1, op, RETURN);
-            flow(0, NULL, PUSH, 1, op, RETURN);
-            flow(0, PUSH, 1, NULL, op, RETURN);
-            flow(8, PUSH, 1, PUSH, 2, op, RETURN);
+            Guest.fine(0, PUSH, 1, PUSH, 2, op, RETURN);
+            Guest.flow(0, op, RETURN);
+            Guest.flow(0, PUSH, 1, op, RETURN);
+            Guest.flow(0, NULL, PUSH, 1, op, RETURN);
+            Guest.flow(0, PUSH, 1, NULL, op, RETURN);
+            Guest.flow(8, PUSH, 1, PUSH, 2, op, RETURN);
         }
-        fine(0, NULL, LOAD, 0, SAME, RETURN);
-        flow(0, NULL, SAME, RETURN);
-        flow(0, NULL, PUSH, 0, SAME, RETURN);
-        flow(0, PUSH, 0, NULL, SAME, RETURN);
-        flow(8, NULL, NULL, SAME, RETURN);
-        flow(0, POP, PUSH, 0, RETURN);
-        flow(0, STORE, 2, PUSH, 0, RETURN);
-        flow(0, JZERO, 2, PUSH, 0, RETURN);
-        flow(0, NULL, JZERO, 3, PUSH, 0, RETURN);
-        fine(0, PUSH, 0, POP, NULL, POP, PUSH, 0, RETURN);
-        fine(8, NEW, 0, RETURN);
-        flow(0, NEW, 0, RETURN);
-        fine(8, NULL, RETURN);
-        flow(0, NULL, RETURN);
-        fine(0, NULL, IS, 0, RETURN);
-        flow(0, PUSH, 0, IS, 0, RETURN);
-        flow(0, IS, 0, RETURN);
-        flow(8, NULL, IS, 0, RETURN);
-        fine(8, GLOAD, 1, RETURN);
-        flow(0, GLOAD, 1, RETURN);
-        fine(0, NULL, GSTORE, 1, PUSH, 0, RETURN);
-        flow(0, PUSH, 0, GSTORE, 1, PUSH, 0, RETURN);
-        flow(0, GSTORE, 0, PUSH, 0, RETURN);
-        flow(0, RETURN);
+        Guest.fine(0, NULL, LOAD, 0, SAME, RETURN);
+        Guest.flow(0, NULL, SAME, RETURN);
+        Guest.flow(0, NULL, PUSH, 0, SAME, RETURN);
+        Guest.flow(0, PUSH, 0, NULL, SAME, RETURN);
+        Guest.flow(8, NULL, NULL, SAME, RETURN);
+        Guest.flow(0, POP, PUSH, 0, RETURN);
+        Guest.flow(0, STORE, 2, PUSH, 0, RETURN);
+        Guest.flow(0, JZERO, 2, PUSH, 0, RETURN);
+        Guest.flow(0, NULL, JZERO, 3, PUSH, 0, RETURN);
+        Guest.fine(0, PUSH, 0, POP, NULL, POP, PUSH, 0, RETURN);
+        Guest.fine(8, NEW, 0, RETURN);
+        Guest.flow(0, NEW, 0, RETURN);
+        Guest.fine(8, NULL, RETURN);
+        Guest.flow(0, NULL, RETURN);
+        Guest.fine(0, NULL, IS, 0, RETURN);
+        Guest.flow(0, PUSH, 0, IS, 0, RETURN);
+        Guest.flow(0, IS, 0, RETURN);
+        Guest.flow(8, NULL, IS, 0, RETURN);
+        Guest.fine(8, GLOAD, 1, RETURN);
+        Guest.flow(0, GLOAD, 1, RETURN);
+        Guest.fine(0, NULL, GSTORE, 1, PUSH, 0, RETURN);
+        Guest.flow(0, PUSH, 0, GSTORE, 1, PUSH, 0, RETURN);
+        Guest.flow(0, GSTORE, 0, PUSH, 0, RETURN);
+        Guest.flow(0, RETURN);
     }
 
     private static void kindsByName() {
@@ -176,106 +145,106 @@ public final class LinkTest {
             int[] value = answersRef ? aRef : anInt;
             int[] wrong = answersRef ? anInt : aRef;
             // The method's own argument and answer.
-            fine(name, value[0], value[1], RETURN);
-            flow(name, wrong[0], wrong[1], RETURN);
+            Guest.fine(name, value[0], value[1], RETURN);
+            Guest.flow(name, wrong[0], wrong[1], RETURN);
             int answer = answersRef == takesRef ? OK : FLOW;
             Checks.due("LOAD 1 of " + name, Guest.single(name, LOAD, 1, RETURN).link(), answer);
             // A field of that name.
             int in = answersRef ? 8 : 0;
-            fine(in, LOAD, 0, GET, name, RETURN);
-            flow(8 - in, LOAD, 0, GET, name, RETURN);
-            flow(in, PUSH, 0, GET, name, RETURN);
-            flow(in, GET, name, RETURN);
-            fine(0, NULL, value[0], value[1], PUT, name, PUSH, 0, RETURN);
-            flow(0, NULL, wrong[0], wrong[1], PUT, name, PUSH, 0, RETURN);
-            flow(0, PUSH, 0, value[0], value[1], PUT, name, PUSH, 0, RETURN);
-            flow(0, value[0], value[1], PUT, name, PUSH, 0, RETURN);
+            Guest.fine(in, LOAD, 0, GET, name, RETURN);
+            Guest.flow(8 - in, LOAD, 0, GET, name, RETURN);
+            Guest.flow(in, PUSH, 0, GET, name, RETURN);
+            Guest.flow(in, GET, name, RETURN);
+            Guest.fine(0, NULL, value[0], value[1], PUT, name, PUSH, 0, RETURN);
+            Guest.flow(0, NULL, wrong[0], wrong[1], PUT, name, PUSH, 0, RETURN);
+            Guest.flow(0, PUSH, 0, value[0], value[1], PUT, name, PUSH, 0, RETURN);
+            Guest.flow(0, value[0], value[1], PUT, name, PUSH, 0, RETURN);
             // A call of that name.
-            fine(in, NULL, argument[0], argument[1], CALL, name, RETURN);
-            flow(8 - in, NULL, argument[0], argument[1], CALL, name, RETURN);
-            flow(in, NULL, other[0], other[1], CALL, name, RETURN);
-            flow(in, PUSH, 0, argument[0], argument[1], CALL, name, RETURN);
-            flow(in, argument[0], argument[1], CALL, name, RETURN);
+            Guest.fine(in, NULL, argument[0], argument[1], CALL, name, RETURN);
+            Guest.flow(8 - in, NULL, argument[0], argument[1], CALL, name, RETURN);
+            Guest.flow(in, NULL, other[0], other[1], CALL, name, RETURN);
+            Guest.flow(in, PUSH, 0, argument[0], argument[1], CALL, name, RETURN);
+            Guest.flow(in, argument[0], argument[1], CALL, name, RETURN);
         }
     }
 
     private static void locals() {
-        fine(8, LOAD, 0, RETURN);
-        flow(0, LOAD, 0, RETURN);
-        fine(0, LOAD, 1, RETURN);
-        fine(12, LOAD, 1, RETURN);
-        flow(0, LOAD, 2, POP, PUSH, 0, RETURN);
-        flow(0, LOAD, 3, POP, PUSH, 0, RETURN);
-        fine(0, PUSH, 4, STORE, 2, LOAD, 2, RETURN);
-        fine(8, NULL, STORE, 3, LOAD, 3, RETURN);
-        flow(8, NULL, STORE, 3, LOAD, 2, RETURN);
-        fine(8, NULL, STORE, 1, LOAD, 1, RETURN);
-        flow(0, NULL, STORE, 1, LOAD, 1, RETURN);
-        fine(0, PUSH, 1, STORE, 0, LOAD, 0, RETURN);
-        flow(8, PUSH, 1, STORE, 0, LOAD, 0, RETURN);
+        Guest.fine(8, LOAD, 0, RETURN);
+        Guest.flow(0, LOAD, 0, RETURN);
+        Guest.fine(0, LOAD, 1, RETURN);
+        Guest.fine(12, LOAD, 1, RETURN);
+        Guest.flow(0, LOAD, 2, POP, PUSH, 0, RETURN);
+        Guest.flow(0, LOAD, 3, POP, PUSH, 0, RETURN);
+        Guest.fine(0, PUSH, 4, STORE, 2, LOAD, 2, RETURN);
+        Guest.fine(8, NULL, STORE, 3, LOAD, 3, RETURN);
+        Guest.flow(8, NULL, STORE, 3, LOAD, 2, RETURN);
+        Guest.fine(8, NULL, STORE, 1, LOAD, 1, RETURN);
+        Guest.flow(0, NULL, STORE, 1, LOAD, 1, RETURN);
+        Guest.fine(0, PUSH, 1, STORE, 0, LOAD, 0, RETURN);
+        Guest.flow(8, PUSH, 1, STORE, 0, LOAD, 0, RETURN);
     }
 
     private static void heights() {
-        fine(0, PUSH, 1, PUSH, 1, PUSH, 1, PUSH, 1, PUSH, 1, RETURN);
-        fine(0, PUSH, 1, PUSH, 1, PUSH, 1, NULL, NULL, SAME, RETURN);
+        Guest.fine(0, PUSH, 1, PUSH, 1, PUSH, 1, PUSH, 1, PUSH, 1, RETURN);
+        Guest.fine(0, PUSH, 1, PUSH, 1, PUSH, 1, NULL, NULL, SAME, RETURN);
         int[] sixth = {PUSH, LOAD, NULL, NEW, GLOAD};
         for (int op : sixth) {
-            flow(0, PUSH, 1, PUSH, 1, PUSH, 1, PUSH, 1, PUSH, 1, op, 0, POP, RETURN);
+            Guest.flow(0, PUSH, 1, PUSH, 1, PUSH, 1, PUSH, 1, PUSH, 1, op, 0, POP, RETURN);
         }
-        flow(0, PUSH, 1, PUSH, 1, PUSH, 1, PUSH, 1, PUSH, 1, NULL, POP, RETURN);
+        Guest.flow(0, PUSH, 1, PUSH, 1, PUSH, 1, PUSH, 1, PUSH, 1, NULL, POP, RETURN);
         // GET, IS and CALL take before they give.
-        fine(0, PUSH, 1, PUSH, 1, PUSH, 1, PUSH, 1, NULL, GET, 1, RETURN);
-        fine(0, PUSH, 1, PUSH, 1, PUSH, 1, PUSH, 1, NULL, IS, 0, RETURN);
-        fine(0, PUSH, 1, PUSH, 1, PUSH, 1, NULL, PUSH, 1, CALL, 1, RETURN);
+        Guest.fine(0, PUSH, 1, PUSH, 1, PUSH, 1, PUSH, 1, NULL, GET, 1, RETURN);
+        Guest.fine(0, PUSH, 1, PUSH, 1, PUSH, 1, PUSH, 1, NULL, IS, 0, RETURN);
+        Guest.fine(0, PUSH, 1, PUSH, 1, PUSH, 1, NULL, PUSH, 1, CALL, 1, RETURN);
         // A loop that leaves an entry behind in each round.
-        flow(0, PUSH, 1, JUMP, 0);
-        flow(0, PUSH, 1, POP, PUSH, 1, JUMP, 3);
-        fine(0, PUSH, 1, POP, PUSH, 1, JUMP, 2);
+        Guest.flow(0, PUSH, 1, JUMP, 0);
+        Guest.flow(0, PUSH, 1, POP, PUSH, 1, JUMP, 3);
+        Guest.fine(0, PUSH, 1, POP, PUSH, 1, JUMP, 2);
     }
 
     private static void ends() {
-        flow(0, PUSH, 1);
-        flow(0, PUSH, 1, POP);
-        flow(0, PUSH, 1, JZERO, 0);
-        flow(0, LOAD, 1, JZERO, 6, PUSH, 1, PUSH, 2, POP);
-        fine(0, JUMP, 3, POP, JUMP, 0);
+        Guest.flow(0, PUSH, 1);
+        Guest.flow(0, PUSH, 1, POP);
+        Guest.flow(0, PUSH, 1, JZERO, 0);
+        Guest.flow(0, LOAD, 1, JZERO, 6, PUSH, 1, PUSH, 2, POP);
+        Guest.fine(0, JUMP, 3, POP, JUMP, 0);
         // What no way reaches has no flow.
-        fine(0, PUSH, 1, RETURN, ADD);
-        fine(0, JUMP, 3, RETURN, PUSH, 1, RETURN, LOAD, 2);
+        Guest.fine(0, PUSH, 1, RETURN, ADD);
+        Guest.fine(0, JUMP, 3, RETURN, PUSH, 1, RETURN, LOAD, 2);
         // An answered way may leave entries behind.
-        fine(0, NULL, PUSH, 1, RETURN);
+        Guest.fine(0, NULL, PUSH, 1, RETURN);
     }
 
     private static void waysThatMeet() {
         // Different numbers of entries at byte 6, then the same at byte 10.
-        flow(0, LOAD, 1, JZERO, 6, PUSH, 1, PUSH, 1, RETURN);
-        fine(0, LOAD, 1, JZERO, 8, PUSH, 1, JUMP, 10, PUSH, 2, RETURN);
-        flow(0, PUSH, 1, LOAD, 1, JZERO, 0, RETURN);
-        flow(0, LOAD, 1, POP, PUSH, 1, JUMP, 0);
+        Guest.flow(0, LOAD, 1, JZERO, 6, PUSH, 1, PUSH, 1, RETURN);
+        Guest.fine(0, LOAD, 1, JZERO, 8, PUSH, 1, JUMP, 10, PUSH, 2, RETURN);
+        Guest.flow(0, PUSH, 1, LOAD, 1, JZERO, 0, RETURN);
+        Guest.flow(0, LOAD, 1, POP, PUSH, 1, JUMP, 0);
         // An INT on one way and a REF on the other, not used, then used as either.
         int[] mixed = {LOAD, 1, JZERO, 9, PUSH, 1, JUMP, 11, RETURN, GLOAD, 0};
-        fine(0, with(mixed, POP, PUSH, 1, RETURN));
-        fine(0, with(mixed, STORE, 2, LOAD, 2, POP, PUSH, 1, RETURN));
-        flow(0, with(mixed, RETURN));
-        flow(8, with(mixed, RETURN));
-        flow(0, with(mixed, IS, 0, RETURN));
-        flow(0, with(mixed, PUSH, 1, ADD, RETURN));
-        flow(0, with(mixed, STORE, 2, LOAD, 2, RETURN));
-        flow(0, with(mixed, STORE, 2, NULL, LOAD, 2, PUT, 0, PUSH, 0, RETURN));
-        fine(0, with(mixed, STORE, 2, PUSH, 5, STORE, 2, LOAD, 2, RETURN));
+        Guest.fine(0, with(mixed, POP, PUSH, 1, RETURN));
+        Guest.fine(0, with(mixed, STORE, 2, LOAD, 2, POP, PUSH, 1, RETURN));
+        Guest.flow(0, with(mixed, RETURN));
+        Guest.flow(8, with(mixed, RETURN));
+        Guest.flow(0, with(mixed, IS, 0, RETURN));
+        Guest.flow(0, with(mixed, PUSH, 1, ADD, RETURN));
+        Guest.flow(0, with(mixed, STORE, 2, LOAD, 2, RETURN));
+        Guest.flow(0, with(mixed, STORE, 2, NULL, LOAD, 2, PUT, 0, PUSH, 0, RETURN));
+        Guest.fine(0, with(mixed, STORE, 2, PUSH, 5, STORE, 2, LOAD, 2, RETURN));
         // Set on one way alone.
-        flow(0, LOAD, 1, JZERO, 8, PUSH, 1, STORE, 2, LOAD, 2, RETURN);
-        fine(0, LOAD, 1, JZERO, 8, PUSH, 1, STORE, 2, LOAD, 1, RETURN);
-        fine(0, LOAD, 1, JZERO, 8, PUSH, 1, STORE, 2, PUSH, 2, STORE, 2, LOAD, 2, RETURN);
+        Guest.flow(0, LOAD, 1, JZERO, 8, PUSH, 1, STORE, 2, LOAD, 2, RETURN);
+        Guest.fine(0, LOAD, 1, JZERO, 8, PUSH, 1, STORE, 2, LOAD, 1, RETURN);
+        Guest.fine(0, LOAD, 1, JZERO, 8, PUSH, 1, STORE, 2, PUSH, 2, STORE, 2, LOAD, 2, RETURN);
         // A later round of a loop brings the other kind, then one that comes over two locals.
-        flow(0, LOAD, 1, POP, LOAD, 1, PUSH, 1, ADD, POP, NULL, STORE, 1, JUMP, 0);
-        flow(0, PUSH, 1, STORE, 2, PUSH, 1, STORE, 3, LOAD, 3, PUSH, 1, ADD, POP,
+        Guest.flow(0, LOAD, 1, POP, LOAD, 1, PUSH, 1, ADD, POP, NULL, STORE, 1, JUMP, 0);
+        Guest.flow(0, PUSH, 1, STORE, 2, PUSH, 1, STORE, 3, LOAD, 3, PUSH, 1, ADD, POP,
             LOAD, 2, STORE, 3, NULL, STORE, 2, JUMP, 8);
-        fine(0, PUSH, 1, STORE, 2, PUSH, 1, STORE, 3, LOAD, 3, POP,
+        Guest.fine(0, PUSH, 1, STORE, 2, PUSH, 1, STORE, 3, LOAD, 3, POP,
             LOAD, 2, STORE, 3, NULL, STORE, 2, JUMP, 8);
         // Both directions count whatever the value is.
-        flow(0, PUSH, 0, JZERO, 5, ADD, PUSH, 1, RETURN);
-        flow(0, PUSH, 1, JZERO, 7, PUSH, 1, RETURN, ADD);
+        Guest.flow(0, PUSH, 0, JZERO, 5, ADD, PUSH, 1, RETURN);
+        Guest.flow(0, PUSH, 1, JZERO, 7, PUSH, 1, RETURN, ADD);
     }
 
     private static int[] with(int[] first, int... then) {
@@ -304,7 +273,7 @@ public final class LinkTest {
         Guest.method(z, 8, PUSH, 1, RETURN);
         Checks.due("FLOW in 7: link", z.link(), FLOW);
         Checks.due("FLOW in 7: place", z.place(), 7 * 32);
-        Checks.due("FLOW in 7: invoke", z.invoke(0, 0, 0), GuestClassMachine.REFUSED);
+        Checks.due("FLOW in 7: invoke", z.invoke(0, 0, 0), REFUSED);
         // What one method sets is not set in the next one.
         GuestClassMachine w = Guest.single(2, NULL, STORE, 2, PUSH, 1, PUSH, 2, ADD, RETURN);
         Guest.method(w, 3, LOAD, 2, RETURN);
@@ -321,7 +290,7 @@ public final class LinkTest {
         x.code(RETURN);
         Checks.due("LOAD 1, RETURN: link", x.link(), OK);
         Checks.due("LOAD 1, RETURN: place", x.place(), -1);
-        Guest.run("LOAD 1, RETURN", x, Guest.call(0, 2, 77), GuestClassMachine.DONE, 77);
+        Guest.run("LOAD 1, RETURN", x, Guest.call(0, 2, 77), DONE, 77);
     }
 
     private static void longestMethods() {
@@ -334,11 +303,11 @@ public final class LinkTest {
         code[29] = PUSH;
         code[30] = 1;
         code[31] = RETURN;
-        fine(0, code);
+        Guest.fine(0, code);
         code[31] = LOAD;
-        form(31, code);
+        Guest.form(31, code);
         code[31] = POP;
-        flow(0, code);
+        Guest.flow(0, code);
         GuestClassMachine x = new GuestClassMachine();
         x.type(-1);
         code[31] = RETURN;
@@ -365,7 +334,7 @@ public final class LinkTest {
             Guest.method(x, name, code);
         }
         Guest.link(x);
-        Guest.run("the last of full methods", x, Guest.call(0, 7, 0), GuestClassMachine.STOPPED, 0);
+        Guest.run("the last of full methods", x, Guest.call(0, 7, 0), STOPPED, 0);
         x.reset();
         x.type(-1);
         code[31] = 32;

@@ -1,20 +1,27 @@
 import com.sun.source.tree.AssertTree;
 import com.sun.source.tree.ClassTree;
 import com.sun.source.tree.CompilationUnitTree;
+import com.sun.source.tree.DoWhileLoopTree;
+import com.sun.source.tree.EnhancedForLoopTree;
 import com.sun.source.tree.ExpressionTree;
+import com.sun.source.tree.ForLoopTree;
 import com.sun.source.tree.InstanceOfTree;
 import com.sun.source.tree.LambdaExpressionTree;
 import com.sun.source.tree.LiteralTree;
 import com.sun.source.tree.MemberReferenceTree;
+import com.sun.source.tree.MemberSelectTree;
 import com.sun.source.tree.MethodInvocationTree;
 import com.sun.source.tree.MethodTree;
 import com.sun.source.tree.NewArrayTree;
 import com.sun.source.tree.NewClassTree;
+import com.sun.source.tree.PrimitiveTypeTree;
 import com.sun.source.tree.SynchronizedTree;
 import com.sun.source.tree.ThrowTree;
 import com.sun.source.tree.Tree;
 import com.sun.source.tree.TryTree;
+import com.sun.source.tree.TypeCastTree;
 import com.sun.source.tree.VariableTree;
+import com.sun.source.tree.WhileLoopTree;
 import com.sun.source.util.JavacTask;
 import com.sun.source.util.SourcePositions;
 import com.sun.source.util.TreeScanner;
@@ -183,6 +190,41 @@ public final class RulesTest extends TreeScanner<Void, Void> {
             Tree.Kind.CHAR_LITERAL, Tree.Kind.BOOLEAN_LITERAL);
         keep(2, "literal " + tree, fine.contains(tree.getKind()));
         return null;
+    }
+
+    @Override
+    public Void visitTypeCast(TypeCastTree tree, Void none) {
+        keep(6, "a cast between the number types: " + tree, tree.getType() instanceof PrimitiveTypeTree);
+        return super.visitTypeCast(tree, none);
+    }
+
+    @Override
+    public Void visitMemberSelect(MemberSelectTree tree, Void none) {
+        keep(3, "nothing of another class: " + tree, tree.getIdentifier().contentEquals("length"));
+        return super.visitMemberSelect(tree, none);
+    }
+
+    @Override
+    public Void visitForLoop(ForLoopTree tree, Void none) {
+        String condition = String.valueOf(tree.getCondition());
+        boolean counts = tree.getInitializer().size() == 1 && tree.getUpdate().size() == 1;
+        keep(8, "a counter against a bound: " + condition, counts && condition.contains(" < "));
+        return super.visitForLoop(tree, none);
+    }
+
+    @Override
+    public Void visitWhileLoop(WhileLoopTree tree, Void none) {
+        return refuse(8, "a loop without a counter of its own");
+    }
+
+    @Override
+    public Void visitDoWhileLoop(DoWhileLoopTree tree, Void none) {
+        return refuse(8, "a loop without a counter of its own");
+    }
+
+    @Override
+    public Void visitEnhancedForLoop(EnhancedForLoopTree tree, Void none) {
+        return refuse(8, "a loop without a counter of its own");
     }
 
     @Override

@@ -1,16 +1,5 @@
 /** Promises 9 and 10, invoke and result, with all instructions, the thrown codes and the ticks. */
-public final class RunTest {
-    private static final int PUSH = 0, LOAD = 1, STORE = 2, POP = 3, ADD = 4, SUB = 5, MUL = 6;
-    private static final int DIV = 7, LESS = 8, SAME = 9, JUMP = 10, JZERO = 11, NULL = 12;
-    private static final int NEW = 13, GET = 14, PUT = 15, CALL = 16, IS = 17, RETURN = 18;
-    private static final int GLOAD = 19, GSTORE = 20;
-    private static final int DONE = GuestClassMachine.DONE;
-    private static final int THROWN = GuestClassMachine.THROWN;
-    private static final int STOPPED = GuestClassMachine.STOPPED;
-    private static final int REFUSED = GuestClassMachine.REFUSED;
-    private static final int LEAST = -2147483648;
-    private static final int GREATEST = 2147483647;
-
+public final class RunTest implements Codes {
     public static void main(String[] args) {
         refusals();
         resultStays();
@@ -35,14 +24,6 @@ public final class RunTest {
         orderOfCallTests();
         whatWasDoneStays();
         Checks.finish();
-    }
-
-    /** Links and invokes a single method with one argument. */
-    private static void gives(int name, int arg, int outcome, int result, int... code) {
-        GuestClassMachine x = Guest.single(name, code);
-        Guest.link(x);
-        String what = java.util.Arrays.toString(code) + " with " + arg;
-        Guest.run(what, x, Guest.call(0, name, arg), outcome, result);
     }
 
     private static void refusals() {
@@ -86,73 +67,73 @@ public final class RunTest {
     }
 
     private static void pushes() {
-        gives(2, 0, DONE, 0, PUSH, 0, RETURN);
-        gives(2, 0, DONE, 127, PUSH, 127, RETURN);
-        gives(2, 0, DONE, -128, PUSH, 128, RETURN);
-        gives(2, 0, DONE, -56, PUSH, 200, RETURN);
-        gives(2, 0, DONE, -1, PUSH, 255, RETURN);
+        Guest.gives(2, 0, DONE, 0, PUSH, 0, RETURN);
+        Guest.gives(2, 0, DONE, 127, PUSH, 127, RETURN);
+        Guest.gives(2, 0, DONE, -128, PUSH, 128, RETURN);
+        Guest.gives(2, 0, DONE, -56, PUSH, 200, RETURN);
+        Guest.gives(2, 0, DONE, -1, PUSH, 255, RETURN);
     }
 
     private static void arithmetic() {
-        gives(2, 10, DONE, 13, LOAD, 1, PUSH, 3, ADD, RETURN);
-        gives(2, 10, DONE, 7, LOAD, 1, PUSH, 3, SUB, RETURN);
-        gives(2, 10, DONE, 30, LOAD, 1, PUSH, 3, MUL, RETURN);
-        gives(2, 10, DONE, 3, LOAD, 1, PUSH, 3, DIV, RETURN);
-        gives(2, -10, DONE, -3, LOAD, 1, PUSH, 3, DIV, RETURN);
-        gives(2, 10, DONE, -3, LOAD, 1, PUSH, 253, DIV, RETURN);
-        gives(2, -10, DONE, 3, LOAD, 1, PUSH, 253, DIV, RETURN);
-        gives(2, GREATEST, DONE, LEAST, LOAD, 1, PUSH, 1, ADD, RETURN);
-        gives(2, LEAST, DONE, GREATEST, LOAD, 1, PUSH, 1, SUB, RETURN);
-        gives(2, 65536, DONE, 0, LOAD, 1, LOAD, 1, MUL, RETURN);
-        gives(2, GREATEST, DONE, 1, LOAD, 1, LOAD, 1, MUL, RETURN);
-        gives(2, LEAST, DONE, LEAST, LOAD, 1, PUSH, 255, DIV, RETURN);
-        gives(2, LEAST, DONE, LEAST, LOAD, 1, PUSH, 255, MUL, RETURN);
-        gives(2, 5, THROWN, 2, LOAD, 1, PUSH, 0, DIV, RETURN);
-        gives(2, 0, THROWN, 2, LOAD, 1, PUSH, 0, DIV, RETURN);
-        gives(2, 0, DONE, 0, LOAD, 1, PUSH, 5, DIV, RETURN);
-        gives(2, 2, DONE, 1, LOAD, 1, PUSH, 3, LESS, RETURN);
-        gives(2, 3, DONE, 0, LOAD, 1, PUSH, 3, LESS, RETURN);
-        gives(2, 4, DONE, 0, LOAD, 1, PUSH, 3, LESS, RETURN);
-        gives(2, LEAST, DONE, 1, LOAD, 1, PUSH, 1, LESS, RETURN);
-        gives(2, GREATEST, DONE, 0, LOAD, 1, PUSH, 255, LESS, RETURN);
+        Guest.gives(2, 10, DONE, 13, LOAD, 1, PUSH, 3, ADD, RETURN);
+        Guest.gives(2, 10, DONE, 7, LOAD, 1, PUSH, 3, SUB, RETURN);
+        Guest.gives(2, 10, DONE, 30, LOAD, 1, PUSH, 3, MUL, RETURN);
+        Guest.gives(2, 10, DONE, 3, LOAD, 1, PUSH, 3, DIV, RETURN);
+        Guest.gives(2, -10, DONE, -3, LOAD, 1, PUSH, 3, DIV, RETURN);
+        Guest.gives(2, 10, DONE, -3, LOAD, 1, PUSH, 253, DIV, RETURN);
+        Guest.gives(2, -10, DONE, 3, LOAD, 1, PUSH, 253, DIV, RETURN);
+        Guest.gives(2, GREATEST, DONE, LEAST, LOAD, 1, PUSH, 1, ADD, RETURN);
+        Guest.gives(2, LEAST, DONE, GREATEST, LOAD, 1, PUSH, 1, SUB, RETURN);
+        Guest.gives(2, 65536, DONE, 0, LOAD, 1, LOAD, 1, MUL, RETURN);
+        Guest.gives(2, GREATEST, DONE, 1, LOAD, 1, LOAD, 1, MUL, RETURN);
+        Guest.gives(2, LEAST, DONE, LEAST, LOAD, 1, PUSH, 255, DIV, RETURN);
+        Guest.gives(2, LEAST, DONE, LEAST, LOAD, 1, PUSH, 255, MUL, RETURN);
+        Guest.gives(2, 5, THROWN, 2, LOAD, 1, PUSH, 0, DIV, RETURN);
+        Guest.gives(2, 0, THROWN, 2, LOAD, 1, PUSH, 0, DIV, RETURN);
+        Guest.gives(2, 0, DONE, 0, LOAD, 1, PUSH, 5, DIV, RETURN);
+        Guest.gives(2, 2, DONE, 1, LOAD, 1, PUSH, 3, LESS, RETURN);
+        Guest.gives(2, 3, DONE, 0, LOAD, 1, PUSH, 3, LESS, RETURN);
+        Guest.gives(2, 4, DONE, 0, LOAD, 1, PUSH, 3, LESS, RETURN);
+        Guest.gives(2, LEAST, DONE, 1, LOAD, 1, PUSH, 1, LESS, RETURN);
+        Guest.gives(2, GREATEST, DONE, 0, LOAD, 1, PUSH, 255, LESS, RETURN);
     }
 
     private static void localsAndStack() {
-        gives(2, 9, DONE, 9, PUSH, 4, STORE, 2, LOAD, 1, STORE, 3, LOAD, 3, RETURN);
-        gives(2, 9, DONE, 4, PUSH, 4, STORE, 2, LOAD, 1, STORE, 3, LOAD, 2, RETURN);
-        gives(2, 9, DONE, 4, PUSH, 4, STORE, 1, LOAD, 1, RETURN);
-        gives(2, 9, DONE, 4, PUSH, 4, STORE, 0, LOAD, 0, RETURN);
-        gives(2, 9, DONE, 4, PUSH, 4, LOAD, 1, POP, RETURN);
-        gives(2, 9, DONE, 9, PUSH, 4, LOAD, 1, RETURN);
-        gives(2, 1, DONE, 15, LOAD, 1, PUSH, 2, PUSH, 3, PUSH, 4, PUSH, 5, ADD, ADD, ADD, ADD, RETURN);
+        Guest.gives(2, 9, DONE, 9, PUSH, 4, STORE, 2, LOAD, 1, STORE, 3, LOAD, 3, RETURN);
+        Guest.gives(2, 9, DONE, 4, PUSH, 4, STORE, 2, LOAD, 1, STORE, 3, LOAD, 2, RETURN);
+        Guest.gives(2, 9, DONE, 4, PUSH, 4, STORE, 1, LOAD, 1, RETURN);
+        Guest.gives(2, 9, DONE, 4, PUSH, 4, STORE, 0, LOAD, 0, RETURN);
+        Guest.gives(2, 9, DONE, 4, PUSH, 4, LOAD, 1, POP, RETURN);
+        Guest.gives(2, 9, DONE, 9, PUSH, 4, LOAD, 1, RETURN);
+        Guest.gives(2, 1, DONE, 15, LOAD, 1, PUSH, 2, PUSH, 3, PUSH, 4, PUSH, 5, ADD, ADD, ADD, ADD, RETURN);
         // The local has another kind than before.
-        gives(2, 1, DONE, 0, LOAD, 0, STORE, 1, LOAD, 1, NULL, SAME, RETURN);
+        Guest.gives(2, 1, DONE, 0, LOAD, 0, STORE, 1, LOAD, 1, NULL, SAME, RETURN);
     }
 
     private static void jumps() {
         int[] choose = {LOAD, 1, JZERO, 7, PUSH, 1, RETURN, PUSH, 2, RETURN};
-        gives(2, 0, DONE, 2, choose);
-        gives(2, 1, DONE, 1, choose);
-        gives(2, LEAST, DONE, 1, choose);
-        gives(2, 5, DONE, 7, JUMP, 5, PUSH, 9, RETURN, PUSH, 7, RETURN);
+        Guest.gives(2, 0, DONE, 2, choose);
+        Guest.gives(2, 1, DONE, 1, choose);
+        Guest.gives(2, LEAST, DONE, 1, choose);
+        Guest.gives(2, 5, DONE, 7, JUMP, 5, PUSH, 9, RETURN, PUSH, 7, RETURN);
         // The sum of 1 to the argument.
         int[] sum = {PUSH, 0, STORE, 2, LOAD, 1, JZERO, 24, LOAD, 2, LOAD, 1, ADD, STORE, 2,
             LOAD, 1, PUSH, 1, SUB, STORE, 1, JUMP, 4, LOAD, 2, RETURN};
-        gives(2, 0, DONE, 0, sum);
-        gives(2, 10, DONE, 55, sum);
-        gives(2, 100, DONE, 5050, sum);
-        gives(2, 101, STOPPED, 0, sum);
+        Guest.gives(2, 0, DONE, 0, sum);
+        Guest.gives(2, 10, DONE, 55, sum);
+        Guest.gives(2, 100, DONE, 5050, sum);
+        Guest.gives(2, 101, STOPPED, 0, sum);
     }
 
     private static void sameAndNull() {
-        gives(2, 0, DONE, 1, NULL, NULL, SAME, RETURN);
-        gives(2, 0, DONE, 0, NULL, LOAD, 0, SAME, RETURN);
-        gives(2, 0, DONE, 1, LOAD, 0, LOAD, 0, SAME, RETURN);
-        gives(2, 0, DONE, 0, LOAD, 0, NEW, 0, SAME, RETURN);
-        gives(2, 0, DONE, 0, NEW, 0, NEW, 0, SAME, RETURN);
-        gives(2, 0, DONE, 1, LOAD, 0, GSTORE, 1, GLOAD, 1, LOAD, 0, SAME, RETURN);
-        gives(2, 0, DONE, 1, LOAD, 0, GSTORE, 1, GLOAD, 0, NULL, SAME, RETURN);
-        gives(6, 5, DONE, 1, LOAD, 1, NULL, SAME, RETURN);
+        Guest.gives(2, 0, DONE, 1, NULL, NULL, SAME, RETURN);
+        Guest.gives(2, 0, DONE, 0, NULL, LOAD, 0, SAME, RETURN);
+        Guest.gives(2, 0, DONE, 1, LOAD, 0, LOAD, 0, SAME, RETURN);
+        Guest.gives(2, 0, DONE, 0, LOAD, 0, NEW, 0, SAME, RETURN);
+        Guest.gives(2, 0, DONE, 0, NEW, 0, NEW, 0, SAME, RETURN);
+        Guest.gives(2, 0, DONE, 1, LOAD, 0, GSTORE, 1, GLOAD, 1, LOAD, 0, SAME, RETURN);
+        Guest.gives(2, 0, DONE, 1, LOAD, 0, GSTORE, 1, GLOAD, 0, NULL, SAME, RETURN);
+        Guest.gives(6, 5, DONE, 1, LOAD, 1, NULL, SAME, RETURN);
     }
 
     private static void fields() {
@@ -177,14 +158,14 @@ public final class RunTest {
     }
 
     private static void fieldFaults() {
-        gives(2, 0, THROWN, 1, NULL, GET, 0, RETURN);
-        gives(8, 0, THROWN, 1, NULL, GET, 8, RETURN);
-        gives(2, 0, THROWN, 1, NULL, PUSH, 1, PUT, 0, PUSH, 0, RETURN);
-        gives(2, 0, THROWN, 1, NULL, NULL, PUT, 8, PUSH, 0, RETURN);
-        gives(2, 0, THROWN, 3, LOAD, 0, GET, 0, RETURN);
-        gives(8, 0, THROWN, 3, LOAD, 0, GET, 8, RETURN);
-        gives(2, 0, THROWN, 3, LOAD, 0, PUSH, 1, PUT, 0, PUSH, 0, RETURN);
-        gives(2, 0, THROWN, 3, LOAD, 0, NULL, PUT, 8, PUSH, 0, RETURN);
+        Guest.gives(2, 0, THROWN, 1, NULL, GET, 0, RETURN);
+        Guest.gives(8, 0, THROWN, 1, NULL, GET, 8, RETURN);
+        Guest.gives(2, 0, THROWN, 1, NULL, PUSH, 1, PUT, 0, PUSH, 0, RETURN);
+        Guest.gives(2, 0, THROWN, 1, NULL, NULL, PUT, 8, PUSH, 0, RETURN);
+        Guest.gives(2, 0, THROWN, 3, LOAD, 0, GET, 0, RETURN);
+        Guest.gives(8, 0, THROWN, 3, LOAD, 0, GET, 8, RETURN);
+        Guest.gives(2, 0, THROWN, 3, LOAD, 0, PUSH, 1, PUT, 0, PUSH, 0, RETURN);
+        Guest.gives(2, 0, THROWN, 3, LOAD, 0, NULL, PUT, 8, PUSH, 0, RETURN);
         // A field of the type below is not the one's above, nor a method of that name a field.
         GuestClassMachine x = new GuestClassMachine();
         x.type(-1);
@@ -255,10 +236,10 @@ public final class RunTest {
     }
 
     private static void callFaults() {
-        gives(2, 0, THROWN, 1, NULL, PUSH, 0, CALL, 2, RETURN);
-        gives(2, 0, THROWN, 1, NULL, PUSH, 0, CALL, 3, RETURN);
-        gives(2, 0, THROWN, 4, LOAD, 0, PUSH, 0, CALL, 3, RETURN);
-        gives(2, 0, THROWN, 4, LOAD, 0, NULL, CALL, 4, RETURN);
+        Guest.gives(2, 0, THROWN, 1, NULL, PUSH, 0, CALL, 2, RETURN);
+        Guest.gives(2, 0, THROWN, 1, NULL, PUSH, 0, CALL, 3, RETURN);
+        Guest.gives(2, 0, THROWN, 4, LOAD, 0, PUSH, 0, CALL, 3, RETURN);
+        Guest.gives(2, 0, THROWN, 4, LOAD, 0, NULL, CALL, 4, RETURN);
         // A method of the type below is not the one's above.
         GuestClassMachine x = Guest.single(2, LOAD, 0, LOAD, 1, CALL, 3, RETURN);
         x.type(0);
@@ -286,19 +267,19 @@ public final class RunTest {
     private static void argumentsOfInvoke() {
         for (int name = 0; name < 8; name++) {
             if ((name & 4) == 0) {
-                gives(name, LEAST, DONE, LEAST, LOAD, 1, RETURN);
+                Guest.gives(name, LEAST, DONE, LEAST, LOAD, 1, RETURN);
             } else {
-                gives(name, 1, DONE, 1, LOAD, 1, NULL, SAME, RETURN);
-                gives(name, 1, THROWN, 1, LOAD, 1, GET, 0, RETURN);
+                Guest.gives(name, 1, DONE, 1, LOAD, 1, NULL, SAME, RETURN);
+                Guest.gives(name, 1, THROWN, 1, LOAD, 1, GET, 0, RETURN);
             }
-            gives(name, 1, DONE, 0, LOAD, 0, NULL, SAME, RETURN);
+            Guest.gives(name, 1, DONE, 0, LOAD, 0, NULL, SAME, RETURN);
         }
     }
 
     private static void answersOfInvoke() {
         for (int name = 8; name < 16; name++) {
-            gives(name, 5, DONE, -1, NULL, RETURN);
-            gives(name, 5, DONE, 0, LOAD, 0, RETURN);
+            Guest.gives(name, 5, DONE, -1, NULL, RETURN);
+            Guest.gives(name, 5, DONE, 0, LOAD, 0, RETURN);
         }
         GuestClassMachine x = Guest.single(8, NEW, 3, RETURN);
         Guest.method(x, 9, LOAD, 0, RETURN);
@@ -326,23 +307,23 @@ public final class RunTest {
         // JZERO back to byte 4 for as long as the argument is not reached.
         int[] back = {PUSH, 0, STORE, 2, LOAD, 2, PUSH, 1, ADD, STORE, 2, LOAD, 2, LOAD, 1, LESS,
             PUSH, 1, SUB, JZERO, 4, LOAD, 2, RETURN};
-        gives(2, 1, DONE, 1, back);
-        gives(2, 100, DONE, 100, back);
-        gives(2, 101, DONE, 101, back);
-        gives(2, 102, STOPPED, 0, back);
+        Guest.gives(2, 1, DONE, 1, back);
+        Guest.gives(2, 100, DONE, 100, back);
+        Guest.gives(2, 101, DONE, 101, back);
+        Guest.gives(2, 102, STOPPED, 0, back);
         // JUMP to its own byte.
-        gives(2, 0, STOPPED, 0, JUMP, 0);
-        gives(2, 0, STOPPED, 0, PUSH, 3, JUMP, 2);
+        Guest.gives(2, 0, STOPPED, 0, JUMP, 0);
+        Guest.gives(2, 0, STOPPED, 0, PUSH, 3, JUMP, 2);
         // A JZERO back that is not taken uses none: 100 rounds with one JUMP back and one JZERO each.
         int[] notTaken = {LOAD, 1, JZERO, 17, PUSH, 1, JZERO, 0, LOAD, 1, PUSH, 1, SUB, STORE, 1, JUMP, 0,
             PUSH, 7, RETURN};
-        gives(2, 100, DONE, 7, notTaken);
-        gives(2, 101, STOPPED, 0, notTaken);
+        Guest.gives(2, 100, DONE, 7, notTaken);
+        Guest.gives(2, 101, STOPPED, 0, notTaken);
         // Jumps forward use none: 100 rounds with one JUMP forward each.
         int[] forward = {LOAD, 1, JZERO, 17, JUMP, 8, RETURN, POP, LOAD, 1, PUSH, 1, SUB, STORE, 1, JUMP, 0,
             PUSH, 7, RETURN};
-        gives(2, 100, DONE, 7, forward);
-        gives(2, 101, STOPPED, 0, forward);
+        Guest.gives(2, 100, DONE, 7, forward);
+        Guest.gives(2, 101, STOPPED, 0, forward);
     }
 
     private static void ticksOfCalls() {
