@@ -9,6 +9,7 @@ public final class EndsTest implements Codes {
         thrownOnNull();
         thrownByZero();
         thrownWithoutField();
+        nothingIsPutWithoutField();
         thrownWithoutMethod();
         thrownTooDeep();
         answeredMethodsAreNotActive();
@@ -126,6 +127,22 @@ public final class EndsTest implements Codes {
                 int due = outcomes[type] == DONE ? 1 : 3;
                 Guest.run("GET " + name + " of type " + type, x, Guest.call(type, 2, 0), outcomes[type], due);
                 Guest.run("PUT " + name + " of type " + type, x, Guest.call(type, 3, 0), outcomes[type], due);
+            }
+        }
+    }
+
+    /** What couldn't be put is not held by the object, nor by what is made in its place later. */
+    private static void nothingIsPutWithoutField() {
+        Checks.sentence("3 GET or PUT where the object's type has no field of that name");
+        for (int name = 8; name < 16; name++) {
+            GuestClassMachine x = Guest.single(2, LOAD, 0, GSTORE, 0, LOAD, 0, NEW, 0, PUT, name, PUSH, 1, RETURN);
+            Guest.method(x, 3, NULL, NEW, 0, PUT, name, PUSH, 1, RETURN);
+            Guest.link(x);
+            for (int i = 0; i < 12; i++) {
+                Guest.run("PUT " + name, x, Guest.call(0, 2, 0), THROWN, 3);
+                Checks.due("reachable", x.reachable(), 1);
+                Guest.run("PUT " + name + " on null", x, Guest.call(0, 3, 0), THROWN, 1);
+                Checks.due("reachable", x.reachable(), 1);
             }
         }
     }

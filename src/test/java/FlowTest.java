@@ -13,8 +13,10 @@ public final class FlowTest implements Codes {
         needsOfPut();
         needsOfCall();
         needsOfReturn();
+        localsAreNoEntries();
         unsetLocals();
         setOnOneWay();
+        waysApart();
         sixthEntry();
         sixthEntryAfterTaking();
         pastTheLastByte();
@@ -129,6 +131,58 @@ public final class FlowTest implements Codes {
             expect(name < 8, name, A_REF, AN_INT, code);
             expect(name >= 8, name, AN_INT, A_REF, code);
         }
+    }
+
+    /** The entries are missing, while the locals have what is needed. */
+    private static void localsAreNoEntries() {
+        Checks.sentence("the entries that it takes are not there");
+        int[] ints = {PUSH, 1, STORE, 2, PUSH, 1, STORE, 3};
+        int[] refs = {NULL, STORE, 2, NULL, STORE, 3};
+        int[] refAndInt = {NULL, STORE, 2, PUSH, 1, STORE, 3};
+        int[][] takeOneInt = {{STORE, 1}, {POP}, {RETURN}};
+        for (int[] op : takeOneInt) {
+            expect(false, 2, ints, op, Guest.code(PUSH, 1, RETURN));
+            expect(true, 2, ints, AN_INT, op, Guest.code(PUSH, 1, RETURN));
+        }
+        expect(false, 2, ints, Guest.code(JZERO, 10, PUSH, 1, RETURN));
+        expect(true, 2, ints, AN_INT, Guest.code(JZERO, 12, PUSH, 1, RETURN));
+        int[] ops = {ADD, SUB, MUL, DIV, LESS};
+        for (int op : ops) {
+            expect(false, 2, ints, Guest.code(op, RETURN));
+            expect(false, 2, ints, AN_INT, Guest.code(op, RETURN));
+            expect(true, 2, ints, AN_INT, AN_INT, Guest.code(op, RETURN));
+        }
+        int[][] takeOneRef = {{GET, 0}, {IS, 0}, {GSTORE, 0}};
+        for (int[] op : takeOneRef) {
+            expect(false, 2, refs, op, Guest.code(PUSH, 1, RETURN));
+            expect(true, 2, refs, A_REF, op, Guest.code(PUSH, 1, RETURN));
+        }
+        int[][] takeTwo = {{SAME}, {PUT, 8}, {CALL, 4}};
+        for (int[] op : takeTwo) {
+            expect(false, 2, refs, op, Guest.code(PUSH, 1, RETURN));
+            expect(false, 2, refs, A_REF, op, Guest.code(PUSH, 1, RETURN));
+            expect(true, 2, refs, A_REF, A_REF, op, Guest.code(PUSH, 1, RETURN));
+        }
+        expect(false, 2, refAndInt, Guest.code(PUT, 0, PUSH, 1, RETURN));
+        expect(false, 2, refAndInt, Guest.code(CALL, 0, PUSH, 1, RETURN));
+    }
+
+    /** What one way does with a local or an entry is not seen on the other. */
+    private static void waysApart() {
+        Checks.sentence("A way goes .. on from instruction to instruction, at JZERO in both directions");
+        for (int local = 0; local < 4; local++) {
+            int[] setInt = {PUSH, 1, STORE, local};
+            int[] setRef = {NULL, STORE, local};
+            int[] useInt = {LOAD, local, PUSH, 1, ADD, RETURN};
+            int[] useRef = {LOAD, local, IS, 0, RETURN};
+            // A REF on both, then an INT on the way straight on; and the other way round.
+            expect(true, 2, setRef, Guest.code(LOAD, 1, POP, PUSH, 1, JZERO, 20), setInt, useInt, useRef);
+            expect(false, 2, setRef, Guest.code(LOAD, 1, POP, PUSH, 1, JZERO, 20), setInt, useRef, Guest.code(NULL),
+                useRef);
+            expect(true, 2, setInt, Guest.code(LOAD, 1, POP, PUSH, 1, JZERO, 19), setRef, useRef, useInt);
+            expect(false, 2, setInt, Guest.code(LOAD, 1, POP, PUSH, 1, JZERO, 19), setRef, useRef, useRef);
+        }
+        Guest.fine(2, NULL, PUSH, 1, JZERO, 12, POP, PUSH, 1, PUSH, 2, ADD, RETURN, IS, 0, RETURN);
     }
 
     private static void unsetLocals() {

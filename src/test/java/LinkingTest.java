@@ -12,6 +12,7 @@ public final class LinkingTest implements Codes {
         places();
         reset();
         resetKeepsThePlace();
+        nothingIsLeftOfEarlierChecks();
         Checks.finish();
     }
 
@@ -190,6 +191,34 @@ public final class LinkingTest implements Codes {
             x.type(-1);
             Checks.due("after a type", x.place(), due[i]);
             Guest.links("after the next link", x, OK, -1);
+        }
+    }
+
+    /** Each code is checked after each other one on the same object, with the same answer as on a new one. */
+    private static void nothingIsLeftOfEarlierChecks() {
+        Checks.sentence("Gives up all types, methods and the link");
+        int[] full = new int[32];
+        java.util.Arrays.fill(full, POP);
+        System.arraycopy(ANSWER, 0, full, 0, 3);
+        int[] jumpBehind = full.clone();
+        jumpBehind[3] = JUMP;
+        jumpBehind[4] = 32;
+        int[][] codes = {ANSWER, full, jumpBehind, {JUMP, 3, PUSH, 1, RETURN}, {JUMP, 2, PUSH, 1, RETURN},
+            {NULL, POP, NULL, POP, PUSH, 1, RETURN}, {LOAD, 3, RETURN}, {PUSH, 1, STORE, 3, LOAD, 3, RETURN},
+            {NULL, STORE, 3, LOAD, 1, JZERO, 9, PUSH, 1, ADD, RETURN}, {JUMP, 8, POP, POP, POP, POP, POP, POP,
+            LOAD, 1, RETURN}, {NULL, NULL, NULL, NULL, NULL, POP, LOAD, 1, RETURN}, {POP, PUSH, 1, RETURN}};
+        int[] answers = {OK, OK, FORM, FORM, OK, OK, FLOW, OK, FLOW, OK, OK, FLOW};
+        int[] places = {-1, -1, 3, 0, -1, -1, 0, -1, 0, -1, -1, 0};
+        for (int first = 0; first < codes.length; first++) {
+            for (int second = 0; second < codes.length; second++) {
+                GuestClassMachine x = Guest.single(2, codes[first]);
+                Guest.method(x, 3, codes[first]);
+                Guest.links("first " + first, x, answers[first], places[first]);
+                x.reset();
+                x.type(-1);
+                Guest.method(x, 2, codes[second]);
+                Guest.links(second + " after " + first, x, answers[second], places[second]);
+            }
         }
     }
 }

@@ -11,6 +11,8 @@ public final class TermsTest implements Codes {
         pushedBytes();
         locals();
         poppedAndAnswered();
+        restStaysAsItWas();
+        emptyStackAtEachStart();
         less();
         same();
         jumps();
@@ -171,6 +173,54 @@ public final class TermsTest implements Codes {
         Guest.gives(2, 9, DONE, 2, LOAD, 1, PUSH, 4, DIV, RETURN);
         Guest.gives(2, 9, DONE, 0, LOAD, 1, PUSH, 4, LESS, RETURN);
         Guest.gives(2, 9, DONE, 9, PUSH, 1, PUSH, 2, PUSH, 3, PUSH, 4, LOAD, 1, RETURN);
+    }
+
+    /** Each instruction with an entry below those it takes, and with all locals set. */
+    private static void restStaysAsItWas() {
+        Checks.sentence("Stack effects are written before -> after, topmost last");
+        int[][] giving = {{PUSH, 1}, {LOAD, 0}, {LOAD, 1}, {LOAD, 2}, {LOAD, 3}, {PUSH, 6, PUSH, 3, ADD},
+            {PUSH, 6, PUSH, 3, SUB}, {PUSH, 6, PUSH, 3, MUL}, {PUSH, 6, PUSH, 3, DIV}, {PUSH, 6, PUSH, 3, LESS},
+            {NULL, NULL, SAME}, {NULL}, {NEW, 0}, {LOAD, 0, GET, 0}, {LOAD, 0, GET, 8}, {LOAD, 0, IS, 0},
+            {LOAD, 0, PUSH, 5, CALL, 3}, {LOAD, 0, NULL, CALL, 12}, {GLOAD, 0}, {GLOAD, 1}};
+        int[][] silent = {{PUSH, 1, STORE, 0}, {PUSH, 1, STORE, 1}, {PUSH, 1, POP}, {NULL, POP},
+            {LOAD, 0, PUSH, 5, PUT, 0}, {LOAD, 0, NULL, PUT, 8}, {LOAD, 0, LOAD, 0, PUT, 8}, {NULL, GSTORE, 0},
+            {LOAD, 0, GSTORE, 1}, {JUMP, 12}, {PUSH, 0, JZERO, 14}, {PUSH, 1, JZERO, 14}};
+        for (int[] code : giving) {
+            restStays(Guest.join(code, Guest.code(POP)));
+        }
+        for (int[] code : silent) {
+            restStays(code);
+        }
+    }
+
+    private static void restStays(int[] code) {
+        GuestClassMachine x = new GuestClassMachine();
+        x.type(-1);
+        x.field(0);
+        x.field(8);
+        Guest.method(x, 2, Guest.join(Guest.code(PUSH, 22, STORE, 2, PUSH, 33, STORE, 3, PUSH, 44), code,
+            Guest.code(LOAD, 2, ADD, LOAD, 3, ADD, RETURN)));
+        Guest.method(x, 3, PUSH, 1, PUSH, 2, STORE, 2, PUSH, 3, STORE, 3, NULL, PUSH, 1, PUSH, 2, RETURN);
+        Guest.method(x, 12, NULL, STORE, 2, PUSH, 3, STORE, 3, NULL, PUSH, 1, NULL, RETURN);
+        Guest.link(x);
+        Guest.run(java.util.Arrays.toString(code), x, Guest.call(0, 2, 9), DONE, 99);
+    }
+
+    /** Entries are left behind by answers and by other ends; the next method begins without them. */
+    private static void emptyStackAtEachStart() {
+        Checks.sentence("A way goes from byte 0, with an empty stack");
+        GuestClassMachine x = Guest.single(2, PUSH, 1, PUSH, 2, PUSH, 3, PUSH, 4, LOAD, 1, RETURN);
+        Guest.method(x, 3, PUSH, 1, PUSH, 2, LOAD, 0, LOAD, 1, CALL, 2, RETURN);
+        Guest.method(x, 0, PUSH, 1, PUSH, 2, PUSH, 3, PUSH, 4, LOAD, 1, DIV, RETURN);
+        Guest.method(x, 1, PUSH, 1, PUSH, 2, PUSH, 3, LOAD, 0, LOAD, 1, CALL, 0, ADD, ADD, ADD, RETURN);
+        Guest.link(x);
+        for (int i = 1; i < 20; i++) {
+            Guest.run("answered", x, Guest.call(0, 2, i), DONE, i);
+            Guest.run("answered twice", x, Guest.call(0, 3, i), DONE, i);
+            Guest.run("thrown", x, Guest.call(0, 0, 0), THROWN, 2);
+            Guest.run("thrown in a call", x, Guest.call(0, 1, 0), THROWN, 2);
+            Guest.run("added up", x, Guest.call(0, 1, 2), DONE, 8);
+        }
     }
 
     private static void less() {
